@@ -183,6 +183,12 @@ public final class PromiseTest {
             due("would(0, 1) alike by " + kind, x.would(0, 1), want[kind][3]);
             x.set(0, 10);
         }
+        x.scale(0, 9);
+        x.set(0, 12);
+        due("would(0, 1) of one less by a scale", x.would(0, 1), 0);
+        due("would(1, 0) of one more by a scale", x.would(1, 0), 2);
+        x.scale(2, 0);
+        due("would(0, 1) of one less by a wrong scale", x.would(0, 1), 0);
         due("would(0, 0)", x.would(0, 0), -1);
         due("would(0, 3)", x.would(0, 3), -1);
         due("would(-1, 1)", x.would(-1, 1), -1);
@@ -250,6 +256,12 @@ public final class PromiseTest {
         promise = 11;
         due("above(4) in a ring", x.above(4), 8 + 16);
         due("count(1)", x.count(1), 6);
+        barn(x, "n3;b102;b022;");
+        due("above(1) by stone 0", x.above(1), 1 + 4);
+        barn(x, "b212;");
+        due("above(0) in a ring of all", x.above(0), 7);
+        promise = 12;
+        due("ringed() of all", x.ringed(), 7);
         refusals(x, 2, 0, 0, 0, 0, 0);
     }
 
@@ -266,7 +278,15 @@ public final class PromiseTest {
         due("orders(6)", x.orders(6), -9);
         due("orders(MAX)", x.orders(Integer.MAX_VALUE), -9);
         due("orders(-2)", x.orders(-2), -4);
+        HeaviestLightest y = told("n4;b202;");
+        due("orders(0) of y", y.orders(0), 1);
+        due("orders(1) of y", y.orders(1), 2);
+        due("orders(2) of y", y.orders(2), 0);
+        due("orders(3) of y", y.orders(3), 3);
         promise = 14;
+        due("next(0) of y", y.next(0), 13);
+        due("next(1) of y", y.next(1), 6);
+        due("next(0) of three new ones", new HeaviestLightest().next(0), 1);
         due("next(0)", x.next(0), 25);
         due("next(1)", x.next(1), 30);
         due("next(2)", x.next(2), -2);
@@ -357,6 +377,12 @@ public final class PromiseTest {
         for (int w = 0; w < 6; w++) {
             due("tells(" + w + ") of both ends", x.tells(w), ends[w]);
         }
+        barn(x, "n4;b012;b122;b132;");
+        int[] firstTwo = {1, 0, 0, 1, 0, 0};
+        for (int w = 0; w < 6; w++) {
+            due("tells(" + w + ") of the first two", x.tells(w), firstTwo[w]);
+        }
+        barn(x, "n4;b012;b022;b032;b132;b232;");
         promise = 18;
         due("worst(4) of both ends", x.worst(4), 1);
         due("worst(2) of both ends", x.worst(2), 0);
@@ -410,6 +436,40 @@ public final class PromiseTest {
         due("found(2, 0) by a right scale", x.found(2, 0), 4);
         promise = 20;
         due("plan(2) when the last one goes on alone", x.plan(2), 4);
+        plansOfFew(x);
+    }
+
+    private static void plansOfFew(HeaviestLightest x) {
+        barn(x, "n4;w01;w12;w23;w34;");
+        promise = 20;
+        int[] rising = {5, 4, 4, 5, 4, 4};
+        for (int kind = 0; kind < 6; kind++) {
+            due("plan(" + kind + ") of four rising", x.plan(kind), rising[kind]);
+        }
+        promise = 21;
+        int[][] found = {{3, 0}, {3, 0}, {3, 2}, {3, 2}, {3, 2}, {3, 2}};
+        for (int kind = 0; kind < 6; kind++) {
+            due("found(" + kind + ", 0) of four rising", x.found(kind, 0), found[kind][0]);
+            due("found(" + kind + ", 1) of four rising", x.found(kind, 1), found[kind][1]);
+        }
+        barn(x, "n4;w040;w120;w230;");
+        promise = 20;
+        int[] mixed = {5, 4, 4, 5, 5, 5};
+        for (int kind = 0; kind < 6; kind++) {
+            due("plan(" + kind + ") of four mixed", x.plan(kind), mixed[kind]);
+        }
+        barn(x, "n3;w010;w130;w220;");
+        promise = 21;
+        int[][] three = {{1, 0}, {1, 0}, {1, 2}, {1, 2}, {1, 2}, {1, 2}};
+        for (int kind = 0; kind < 6; kind++) {
+            due("found(" + kind + ", 0) of three", x.found(kind, 0), three[kind][0]);
+            due("found(" + kind + ", 1) of three", x.found(kind, 1), three[kind][1]);
+        }
+        barn(x, "n3;w090;w130;w220;");
+        for (int kind = 0; kind < 6; kind++) {
+            due("found(" + kind + ", 0) of three falling", x.found(kind, 0), 0);
+            due("found(" + kind + ", 1) of three falling", x.found(kind, 1), kind < 2 ? 2 : 1);
+        }
     }
 
     private static void net() {
@@ -430,6 +490,9 @@ public final class PromiseTest {
         }
         due("through(4)", x.through(4), -1);
         due("through(-1)", x.through(-1), -1);
+        HeaviestLightest y = told("c02;w299;");
+        due("through(0) behind one", y.through(0), 2);
+        due("through(2) behind one", y.through(2), 0);
         promise = 24;
         due("sorts()", x.sorts(), 0);
         promise = 25;
@@ -599,6 +662,7 @@ public final class PromiseTest {
         due("seeds(4, 5, 1)", x.seeds(4, 5, 1), 14);
         due("seeds(6, 0, 1)", x.seeds(6, 0, 1), -2);
         due("seeds(-1, 1, 1)", x.seeds(-1, 1, 1), -2);
+        due("seeds(0, 1, 1)", x.seeds(0, 1, 1), 3);
         due("seeds(0, 0, 1)", x.seeds(0, 0, 1), -4);
         due("seeds(0, 21, 1)", x.seeds(0, 21, 1), -6);
         due("seeds(0, 20, MIN)", x.seeds(0, 20, Integer.MIN_VALUE), 60);
@@ -606,16 +670,25 @@ public final class PromiseTest {
         refusals(x, 0, 2, 0, 1, 0, 1);
         barn(x, "n6;");
         due("seeds(1, 3, -7)", x.seeds(1, 3, -7), 21);
-        int z = -7;
-        int sum = 0;
-        for (int t = 0; t < 4; t++) {
+        for (int kind = 2; kind < 6; kind++) {
+            drawn(x, kind, 9, 2026 * kind);
+            drawn(x, kind, 20, -kind);
+        }
+    }
+
+    private static void drawn(HeaviestLightest x, int kind, int times, int seed) {
+        int due = 0;
+        int z = seed;
+        int answer = x.seeds(kind, times, seed);
+        for (int t = 0; t < times; t++) {
+            HeaviestLightest y = told("n6;");
             for (int s = 0; s < 6; s++) {
                 z = z * 1103515245 + 12345;
-                x.set(s, (z & Integer.MAX_VALUE) / 65536 % 99 + 1);
+                y.set(s, (z & Integer.MAX_VALUE) / 65536 % 99 + 1);
             }
-            sum += x.plan(3);
+            due += y.plan(kind);
         }
-        due("seeds(3, 4, -7)", x.seeds(3, 4, -7), sum);
+        due("seeds(" + kind + ", " + times + ", " + seed + ")", answer, due);
     }
 
     private static void images() {

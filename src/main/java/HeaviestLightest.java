@@ -858,15 +858,12 @@ public final class HeaviestLightest {
         }
 
         int fewestAtWorst(Known known, int wanted) {
-            int set = fitting(known);
-            solve(this, set, wanted, 0);
-            return atWorst[indexOf(set, wanted)] - 1;
+            return atWorst[solve(this, fitting(known), wanted, 0)] - 1;
         }
 
         int leastMean(Known known, int wanted, boolean aboveLine) {
             int set = fitting(known);
-            solve(this, set, wanted, 0);
-            int sum = together[indexOf(set, wanted)] - 1;
+            int sum = together[solve(this, set, wanted, 0)] - 1;
             int many = Integer.bitCount(set);
             int common = commonDivisor(sum, many);
             if (common < 1) {
@@ -973,11 +970,11 @@ public final class HeaviestLightest {
             return BOOKS * wanted + ofFewer + code;
         }
 
-        /** Each weighing settles a pair that was open, so the depth is six at most. */
-        private static void solve(Wants w, int set, int wanted, int depth) {
+        /** Where the answers stand then. Each weighing settles a pair that was open, so the depth is six at most. */
+        private static int solve(Wants w, int set, int wanted, int depth) {
             int at = w.indexOf(set, wanted);
             if (depth > DEPTH_MOST || w.atWorst[at] != 0) {
-                return;
+                return at;
             }
             boolean told = w.isTold(set, wanted);
             int worst = told ? 0 : MANY;
@@ -987,16 +984,15 @@ public final class HeaviestLightest {
                 int with = lesserFirst ? set & w.ahead[pair] : 0;
                 int without = set & ~with;
                 if (with != 0 && without != 0) {
-                    solve(w, with, wanted, depth + 1);
-                    solve(w, without, wanted, depth + 1);
-                    int one = w.indexOf(with, wanted);
-                    int other = w.indexOf(without, wanted);
+                    int one = solve(w, with, wanted, depth + 1);
+                    int other = solve(w, without, wanted, depth + 1);
                     worst = Math.min(worst, Math.max(w.atWorst[one], w.atWorst[other]));
                     sum = Math.min(sum, Integer.bitCount(set) + w.together[one] - 1 + w.together[other] - 1);
                 }
             }
             w.atWorst[at] = worst + 1;
             w.together[at] = sum + 1;
+            return at;
         }
     }
 

@@ -465,6 +465,11 @@ public final class PromiseTest {
             due("found(" + kind + ", 0) of three", x.found(kind, 0), three[kind][0]);
             due("found(" + kind + ", 1) of three", x.found(kind, 1), three[kind][1]);
         }
+        barn(x, "w299;");
+        due("found(1, 0): the last one alone in both", x.found(1, 0), 2);
+        due("found(1, 1): the last one alone in both", x.found(1, 1), 0);
+        barn(x, "w25;");
+        due("found(1, 1): the last one alone in both", x.found(1, 1), 2);
         barn(x, "n3;w090;w130;w220;");
         for (int kind = 0; kind < 6; kind++) {
             due("found(" + kind + ", 0) of three falling", x.found(kind, 0), 0);

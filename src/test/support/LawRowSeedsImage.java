@@ -69,6 +69,7 @@ final class LawRowSeedsImage {
             "{s20;w011;b121;} row(0) row(1) row(0) row(0) row(1) row(2) judge()=-9 count(1)=1", "{s20;w011;b121;} row(0) row(1) row(2) judge()=2",
             "{s50;w011;} row(0) row(1) row(0) row(0) row(1) row(2) judge()=-9", "{s30;w011;} row(1) row(0) row(2) row(1) row(0) row(0) judge()=5",
             "{s11;w011;} row(0) row(1) row(1) judge()=-9", "{s40;w011;} 4*weigh(0,1)=2 row(0) row(1) row(2) row(0) row(1) row(1) judge()=-9 would(0,1)=2",
+            "{s23;w011;} 24*weigh(1,2)=1 row(0) row(1) row(0) judge()=-9 row(0) row(1) row(2) judge()=2 count(1)=24",
             "{s29;w011;} 9*weigh(0,1) row(0) row(1) row(2) row(0) row(1) row(0) row(0) row(1) row(2) row(1) row(0) row(0) judge()=-9");
     }
 

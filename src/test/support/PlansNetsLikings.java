@@ -171,7 +171,8 @@ final class PlansNetsLikings {
     private static void idle(Sentences s) {
         s.of(28, "IDLE: COMPARISONS (bits) that change no row of noughts and ones;",
             "idle()=0 {c01;} idle()=0 {c01;} idle()=2 {c12;} idle()=2 {c01;} idle()=2 {c02;} idle()=18", "{n2;} " + TWELVE + " idle()=4094",
-            "{c01;c12;c01;c01;c12;c02;} idle()=56", SIX + " idle()=0", "{w030;w120;c01;} idle()=0", "{n4;c01;c23;c01;c23;} idle()=12");
+            "{c01;c12;c01;c01;c12;c02;} idle()=56", SIX + " idle()=0", "{w030;w120;c01;} idle()=0", "{n4;c01;c23;c01;c23;} idle()=12",
+            "{c02;c01;c12;c01;} idle()=8");
         s.of(28, "IDLE (bits).", "11*compare(0,1) compare(1,2)=12 idle()=2046");
     }
 
@@ -179,7 +180,8 @@ final class PlansNetsLikings {
         s.of(29, "MENDS: the COMPARISON (10 times the lesser PLACE, and the other) by which, put at the end, GAP is least, less than now; of several the least; -9.",
             "{n2;} mends()=1 {c01;} mends()=-9", "mends()=2 {c01;} mends()=12 {c12;} mends()=1 {c01;} mends()=-9", "{c02;} mends()=1 {c01;} mends()=12 {c12;} mends()=-9",
             "{n4;c01;c23;c02;c13;} mends()=12", SIX + " mends()=-9", SIX.replace("c12;c34;}", "c12;}") + " mends()=34",
-            SIX.replace("c12;c34;}", "c34;}") + " mends()=12", "{n6;c01;c12;c23;c01;c12;c01;c45;} mends()=24");
+            SIX.replace("c12;c34;}", "c34;}") + " mends()=12", "{n6;c01;c12;c23;c01;c12;c01;c45;} mends()=24",
+            TWELVE + " count(2)=12 mends()=12 count(2)=12");
         s.of(29, "MENDS; -9.", "{n2;c01;} mends()=-9 count(13)=0 clear()=1 mends()=1");
         s.same(29, "MENDS; -9.", Settings.MUCH + " mends() idle() rounds() gap() sorts() through(0)", Settings.MUCH);
     }
@@ -214,6 +216,9 @@ final class PlansNetsLikings {
             "{l10;l21;l02;} turns(0)=0 turns(1)=2 turns(2)=1", "{n6;l54;l43;l32;l21;l10;} turns(0)=5 turns(1)=4 turns(2)=3 turns(3)=2 turns(4)=1 turns(5)=0 turns(6)=-9",
             "{n2;l10;} turns(0)=1 turns(1)=0 turns(2)=-9", "{n4;l12;l23;l31;l30;} turns(0)=1 turns(1)=2 turns(2)=3 turns(3)=0",
             ALL_LIKED + " turns(0)=0 turns(5)=5 turns(6)=-9");
+        s.of(32, "who is LIKED ahead,", "{l10;} turns(0)=1 like(0,1)=0 turns(0)=0 turns(1)=1 turns(-1)=0 {l12;l20;} turns(-1)=1 like(0,2)=0 turns(-1)=0",
+            "{n6;l34;l45;l53;} turns(-1)=1 {n3;} turns(-1)=0 turns(0)=0 {n6;l34;l45;l53;} turns(-1)=1 {n3;l10;l20;} turns(-1)=0 turns(0)=1",
+            "{l10;} turns(0)=1 {n3;} turns(0)=0 turns(-1)=0 {n6;} turns(5)=5");
         s.of(32, "TURNS (k -1); the order's k-th (-9).", "turns(-1)=0 turns(0)=0 turns(2)=2 turns(3)=-9 turns(MAX)=-9 count(14)=0");
         s.of(32, "-4 below -1.", "turns(-2)=-4 turns(MIN)=-4 turns(-1)=0 count(14)=2");
         s.refused(32, "-4 below -1.", Settings.MUCH, "turns(-2)=-4 turns(MIN)=-4");

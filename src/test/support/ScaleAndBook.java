@@ -93,7 +93,8 @@ final class ScaleAndBook {
             "{s20;w011;} weigh(0,1)=2 weigh(0,1)=0 weigh(1,0)=0 weigh(1,0)=2 weigh(1,2)=1 weigh(1,2)=1 would(0,1)=2",
             "{s21;w011;} weigh(0,1)=2 weigh(0,1)=2 weigh(0,1)=0 weigh(0,1)=2 weigh(0,1)=2 weigh(1,0)=2 weigh(1,0)=0",
             "{s29;w011;} 10*weigh(0,1)=2 weigh(0,1)=0 10*weigh(0,1)=2 would(1,0)=2 weigh(0,1)=0 2*weigh(0,1)=2 would(0,1)=2",
-            "{s20;w011;b121;} would(0,1)=0 would(1,0)=2 would(1,2)=1 would(2,1)=1");
+            "{s20;w011;b121;} would(0,1)=0 would(1,0)=2 would(1,2)=1 would(2,1)=1",
+            "{s23;w011;} 24*weigh(1,2)=1 would(0,1)=0 would(1,0)=2 strike()=23 would(0,1)=2");
         s.of(7, "SIGNLESS as a COARSE, but 2 for 0.",
             "{s33;w013;} would(0,1)=1 would(1,0)=1 {w014;} would(0,1)=2 would(1,0)=2 would(1,2)=1",
             "{s30;w011;} would(0,1)=2 would(1,0)=2 would(1,2)=1",

@@ -53,6 +53,9 @@ final class WhatFollows {
             "{b011;} orders(-1)=6 orders(0)=0", "{n6;b542;b432;b322;b212;b102;} orders(-1)=1 orders(0)=5 orders(5)=0");
         s.of(13, told, "{b012;b102;} orders(-1)=0 orders(0)=-9 orders(2)=-9 orders(3)=-9 count(14)=0");
         s.of(13, "ORDERS (k -1); the first one's k-th STONE (-9).", "orders(-1)=6 orders(0)=0 orders(2)=2 orders(3)=-9 orders(MAX)=-9 count(14)=0");
+        s.of(13, "so that who is ABOVE is ahead:", "{b012;b122;} orders(-1)=1 strike()=1 orders(-1)=3 strike()=0 orders(-1)=6 {b212;b102;} orders(-1)=1 orders(0)=2 orders(2)=0",
+            "{n6;b502;} orders(0)=1 {n3;} orders(0)=0 orders(-1)=6 {n2;} orders(-1)=2 {n6;} orders(-1)=720 orders(0)=0");
+        s.of(13, "how many;", "22*weigh(0,1)=1 orders(-1)=6 {b212;b102;} count(1)=24 orders(-1)=1 orders(0)=2 orders(1)=1 orders(2)=0 strike()=23 orders(-1)=3");
         s.of(13, "-4 below -1.", "orders(-2)=-4 orders(MIN)=-4 orders(-1)=6 count(14)=2 {b012;b102;} orders(-2)=-4 orders(-1)=0");
         s.refused(13, "-4 below -1.", Settings.MUCH, "orders(-2)=-4 orders(MIN)=-4");
     }
@@ -64,6 +67,7 @@ final class WhatFollows {
             "next(0)=1 next(1)=3", "{n2;} next(0)=1 next(1)=1", "{n6;} next(0)=1 next(1)=360",
             "{b012;} next(0)=2 next(1)=2", "{n4;b202;} next(0)=13 next(1)=6", "{n4;b012;b232;} next(0)=2 next(1)=3",
             "{n6;b012;b122;b232;b342;b352;} next(0)=45 next(1)=1", "{n6;b542;b432;b322;b202;b212;} next(0)=1 next(1)=1");
+        s.of(14, told, "23*weigh(0,1)=1 next(0)=1 {b012;} count(1)=24 next(0)=2 next(1)=2", "22*weigh(0,1)=1 {b122;b010;} next(0)=2 next(1)=1");
         s.of(14, told, "{b012;b122;} next(0)=-9 next(1)=-9", "{n2;b010;} next(0)=-9 next(1)=-9",
             "{n4;b012;b102;} open()=5 next(0)=-9 next(1)=-9", "{b012;b122;b202;} next(0)=-9 next(1)=-9 count(12)=0 count(13)=0");
         s.of(14, "NEXT: which two (what 0; -9), the number (1; -9).", "{n4;b302;} next(0)=12 next(1)=6", "{b011;b021;} next(0)=1 next(1)=3");
@@ -102,7 +106,20 @@ final class WhatFollows {
         s.of(18, "All WEIGHTS unlike, by a right SCALE, of 4 STONES at most, all ORDERS that fit:",
             "{n4;s59;} worst(5)=5 worst(0)=3 mean(5,0)=14 set(0,99) worst(5)=5 mean(5,1)=3", "{n4;s19;b011;b121;b231;} worst(5)=5 worst(0)=3 tells(0)=0",
             "{s50;w199;b012;} worst(0)=1 worst(5)=2 tells(0)=0");
+        s.of(18, "all ORDERS that fit:", "22*weigh(0,1)=1 worst(5)=3 {b012;b022;} count(1)=24 tells(0)=1 worst(5)=1 mean(5,0)=1 mean(0,0)=0 mean(0,1)=1");
+        askedInTurn(s);
         s.same(18, "All WEIGHTS unlike, by a right SCALE,", Settings.MUCH + " tells(0) worst(5) mean(4,1) mean(3,0)", Settings.MUCH);
+    }
+
+    /** The same object is asked of many books, so that nothing that it keeps of one may tell of another. */
+    private static void askedInTurn(Sentences s) {
+        s.of(18, "all ORDERS that fit:",
+            "{b012;b022;} worst(0)=0 worst(1)=1 mean(1,0)=1 {n3;b102;b202;} worst(0)=1 worst(1)=0 mean(1,0)=0 {n3;b012;b212;} worst(0)=1 worst(1)=0 {n3;b102;b122;} worst(0)=0 worst(1)=1",
+            "{n4;} worst(5)=5 worst(0)=3 {n3;} worst(5)=3 worst(0)=2 mean(5,0)=8 {n2;} worst(5)=1 worst(0)=1 {n3;} worst(5)=3 {n4;} worst(5)=5 worst(1)=3",
+            "{n2;b102;} worst(0)=0 worst(5)=0 {n3;} worst(0)=2 worst(5)=3 {n2;} worst(0)=1 worst(5)=1 {n2;b012;} worst(0)=0 worst(5)=0 {n3;b212;b102;} worst(0)=0 worst(5)=0"
+                + " {n4;} worst(0)=3 worst(5)=5 {n3;} worst(0)=2 worst(5)=3",
+            "{n3;b122;b202;} worst(5)=0 {n4;b232;} worst(5)=4 worst(0)=2 {n4;b322;} worst(5)=4 worst(0)=2 {n3;} worst(5)=3 {n3;b122;} worst(5)=2 {n2;} worst(5)=1",
+            "{n3;b012;b122;} worst(5)=0 {n4;} worst(5)=5 {n3;b102;b212;} worst(5)=0 {n4;b102;b202;b302;} worst(0)=2 worst(1)=0 {n4;b012;b022;b032;} worst(0)=0 worst(1)=2");
     }
 
     private static void tells(Sentences s) {

@@ -14,17 +14,11 @@ import java.util.regex.Pattern;
 
 /** What of ../shared/LANGUAGE.md a test can see: the face, the sizes, and words that must not stand there. */
 public final class LanguageTest {
-    private static final String[] FACE = {
-        "int feed(int)", "int barn()", "int weight(int)", "int set(int,int)", "int scale(int,int)", "int would(int,int)",
-        "int weigh(int,int)", "int book(int)", "int strike()", "int above(int)", "int ringed()", "int orders(int)",
-        "int next(int)", "int lies()", "int open()", "int tells(int)", "int worst(int)", "long mean(int,int)",
-        "int plan(int)", "int found(int,int)", "int compare(int,int)", "int clear()", "int sorts()", "int gap()",
-        "int rounds()", "int through(int)", "int idle()", "int mends()", "int like(int,int)", "int loops()",
-        "int turns(int)", "int law(int,int)", "int row(int)", "int judge()", "int seeds(int,int,int)", "int image()",
-        "int restore()", "int count(int)"};
     private static final String[] FORBIDDEN = {
         "throws?", "try", "catch", "finally", "synchronized", "assert", "import", "package", "protected", "double", "float",
         "volatile", "native", "Object", "System\\.(?!arraycopy)\\w+", "\\w+Exact", "equals", "hashCode", "toString", "var"};
+    private static final int PROMISES = 39;
+    private static final List<String> FACE = new ArrayList<>();
     private static int wrong = 0;
 
     private static void must(boolean holds, String what) {
@@ -35,12 +29,29 @@ public final class LanguageTest {
     }
 
     public static void main(String[] args) throws IOException {
+        readFace();
         face();
         inside();
         words();
         System.out.println(wrong == 0 ? "the language is kept to" : wrong + " rules of the language are broken");
         if (wrong != 0) {
             System.exit(1);
+        }
+    }
+
+    /** The face as the document shows it, and the promises' heads, that tell the same calls in the same order. */
+    private static void readFace() throws IOException {
+        String doc = Files.readString(Path.of("../shared/DOC.md"));
+        Matcher line = Pattern.compile("(?m)^    public (int|long) (\\w+)\\((.*)\\);$").matcher(doc);
+        while (line.find()) {
+            FACE.add(line.group(1) + " " + line.group(2) + "(" + line.group(3).replaceAll(" \\w+(,|$)", "$1").replace(" ", "") + ")");
+        }
+        must(FACE.size() == PROMISES - 1, "the document shows " + FACE.size() + " calls");
+        Matcher head = Pattern.compile("## Promise (\\d+): (\\w+)\\s+`(int|long) (\\w+)\\(").matcher(doc);
+        for (int p = 2; p <= PROMISES; p++) {
+            String call = p - 2 < FACE.size() ? FACE.get(p - 2) : "";
+            must(head.find() && head.group(1).equals("" + p) && call.startsWith(head.group(3) + " " + head.group(4) + "("),
+                "promise " + p + " is of " + call);
         }
     }
 
@@ -55,7 +66,7 @@ public final class LanguageTest {
     private static void face() {
         Class<?> c = HeaviestLightest.class;
         must(Modifier.isPublic(c.getModifiers()) && Modifier.isFinal(c.getModifiers()), "the class is public and final");
-        Set<String> due = new TreeSet<>(List.of(FACE));
+        Set<String> due = new TreeSet<>(FACE);
         Set<String> found = new TreeSet<>();
         for (Method m : c.getDeclaredMethods()) {
             if (Modifier.isPublic(m.getModifiers())) {
@@ -110,6 +121,10 @@ public final class LanguageTest {
         must(!code.contains("->") && !code.contains("::"), "no lambda, no method reference");
         must(!Pattern.compile("while \\(true\\)|for \\(;;|static \\{").matcher(code).find(), "ends are seen, no static block");
         String[] lines = source.split("\n");
+        for (String line : code.split("\n")) {
+            must(!line.matches(".*\\bnew\\b.*") || line.matches("\\s+private final .* = new \\w+(\\(\\)|\\[.*\\]);"),
+                "rows and objects are made with the object alone: " + line.trim());
+        }
         for (int i = 0; i < lines.length; i++) {
             Matcher head = Pattern.compile("^(    |        )(?=\\w)(?!if|for|while|switch|else)[\\w\\[\\] ]+\\(.*\\) \\{$").matcher(lines[i]);
             if (head.find()) {

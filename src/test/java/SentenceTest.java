@@ -4,6 +4,7 @@ import java.io.IOException;
 public final class SentenceTest {
     public static void main(String[] args) throws IOException {
         Sentences s = new Sentences();
+        TheWholeObject.all(s);
         ScaleAndBook.all(s);
         BarnLetters.all(s);
         WhatFollows.all(s);

@@ -25,7 +25,9 @@ final class BarnLetters {
             "{n4;w09;}=2 count(5)=0 {}=-1000", "{n9;}=-2000 count(5)=0 {}=-1000", "[n4] count(5)=2 barn()=-1002 count(5)=0 {;}=-1000", "{n4;n5;n6;}=3 count(0)=6");
         s.of(3, "the FAULT (nothing is counted).", "{}=-1000 {x}=-1000 {n9;}=-2000 {w000;}=-2000 {w30;}=-2000 {w310;}=-2000 {s60;}=-2000 {c10;}=-2000"
             + " count(11)=0 count(12)=0 count(13)=0 count(14)=0 count(15)=0 count(16)=0",
-            "24*weigh(0,1)=1 {b010;}=-2000 12*compare(0,1) {c01;}=-2000 count(16)=0");
+            "24*weigh(0,1)=1 {b010;}=-2000 12*compare(0,1) {c01;}=-2000 count(16)=0",
+            "{w05;w30;}=-2004 {w05;w000;}=-2004 {w05;s60;}=-2004 {w05;w0;}=-1006 {n3;x}=-1003 {l01;l11;}=-2004 {n3;n7;}=-2003"
+            + " count(11)=0 count(12)=0 count(13)=0 count(14)=0 count(15)=0 count(16)=0");
     }
 
     private static void anew(Sentences s) {

@@ -49,6 +49,10 @@ final class Calls {
         }
     }
 
+    void mustBeUsedUp() {
+        of.must(calls == CALLS_MOST, calls + " calls in " + script);
+    }
+
     private static long statements(String text) {
         return text.chars().filter(c -> c == ';').count();
     }

@@ -54,7 +54,8 @@ final class LawRowSeedsImage {
             "{w012;} row(0) row(1) row(2) row(1) row(0) row(2) row(1) row(1) row(1) judge()=5", "{w012;} row(0) row(1) row(2) row(1) row(3) row(2) judge()=4",
             "{w012;} row(0) row(1) row(2) row(3) row(3) row(2) judge()=3");
         s.of(35, "where the last three would begin, if they are not whole; -9.",
-            "row(0) judge()=0", "row(0) row(1) judge()=0", "row(0) row(1) row(1) row(0) judge()=3", "row(0) row(1) row(1) row(0) row(1) judge()=3", "judge()=-9",
+            "row(0) judge()=0", "row(0) row(1) judge()=0", "row(0) row(0) judge()=0", "row(9) row(9) judge()=0", "row(9) judge()=0",
+            "row(0) row(1) row(1) row(2) row(2) judge()=3", "row(0) row(1) row(1) row(0) judge()=3", "row(0) row(1) row(1) row(0) row(1) judge()=3", "judge()=-9",
             "row(0) row(1) row(0) row(0) judge()=2", "row(0) row(0) row(0) row(0) row(1) judge()=1",
             "row(0) row(1) row(1) row(0) row(1) row(1) row(0) row(1) row(1) row(0) judge()=9", "row(0) row(1) row(1) row(0) row(1) row(1) row(0) row(1) row(1) row(0) row(2) judge()=9");
         s.of(35, "JUDGED; -9 (whichever it answers, the ROW has none then).",

@@ -17,11 +17,14 @@ import java.util.function.Consumer;
 final class Sentences {
     private static final Path DOC = Path.of("../shared/DOC.md");
     private static final int PROMISES = 39;
+    /** Not of a promise: what the document says ahead of the face, and behind the promises. */
+    static final int AHEAD = 0;
+    static final int BEHIND = PROMISES + 1;
 
     private final String doc;
     private final boolean[] named;
     private final int[] termsFrom = new int[2];
-    private final int[][] promises = new int[PROMISES + 1][2];
+    private final int[][] promises = new int[BEHIND + 1][2];
     private final Map<String, Method> face = new HashMap<>();
     private int wrong = 0;
     private int tests = 0;
@@ -40,6 +43,8 @@ final class Sentences {
             end = at;
         }
         termsFrom[1] = end;
+        promises[AHEAD] = new int[] {doc.indexOf("An object is used"), doc.indexOf("## The public face")};
+        promises[BEHIND] = new int[] {doc.indexOf("How the state is held"), doc.length()};
         for (Method m : HeaviestLightest.class.getDeclaredMethods()) {
             face.put(m.getName(), m);
         }
@@ -126,7 +131,8 @@ final class Sentences {
     void must(boolean holds, String what) {
         if (!holds) {
             wrong++;
-            System.out.println("promise " + promise + ", \"" + words + "\": " + what);
+            String where = promise == AHEAD ? "ahead of the face" : promise == BEHIND ? "behind the promises" : "promise " + promise;
+            System.out.println(where + ", \"" + words + "\": " + what);
         }
     }
 
@@ -154,6 +160,7 @@ final class Sentences {
             tellUnnamed("promise " + p, promises[p]);
         }
         tellUnnamed("the terms", termsFrom);
+        tellUnnamed("ahead of the face", promises[AHEAD]);
     }
 
     private void tellUnnamed(String where, int[] part) {

@@ -16,6 +16,6 @@ final class Settings {
     static final String MUCH_WITHOUT_IMAGE = BARN + " " + CHANGED + " " + ROW + " " + LETTERS;
     static final String FIVE = MUCH_WITHOUT_LETTERS + " {n5;w455;b012;b430;l34;c34;} " + LETTERS;
     static final String RING = MUCH_WITHOUT_LETTERS + " {b102;} " + LETTERS;
-    /** A new object that was told five stones: no scale, weights, book, net or likings that would hide a change. */
+    /** Nothing but five stones: no book, net or likings behind which a change could hide. */
     static final String FIVE_ALIKE = "{n5;}";
 }
